@@ -6,6 +6,7 @@ public final class HistoryTest {
         undoing();
         oldestIsDropped();
         everyPartOfTheState();
+        numbersGivenAgain();
         textAndSnapshotStay();
         saving();
         restoring();
@@ -81,6 +82,46 @@ public final class HistoryTest {
             due.is("16: all goes on as then", x.silentIn(), silent);
             x.pass(1);
         }
+    }
+
+    private static void numbersGivenAgain() {
+        MainsWords x = new MainsWords();
+        x.sender(0, 9);
+        x.lamp(0, 0, 0);
+        x.lamp(0, 0, 1);
+        x.say(0, 1);
+        x.pass(34);
+        x.machine(0, 9, 7);
+        x.say(0, 0);
+        x.pass(9);
+        due.is("a sender with a pause", x.senderOf(0, 5), 3);
+        due.is("a lamp that is selected", x.lampOf(1, 4), 1);
+        String before = Calls.state(x);
+        x.save();
+        x.remove(0, 0);
+        due.is("2: another sender of the number", x.sender(3, 4), 0);
+        due.is("2: it has no pause", x.senderOf(0, 5), 0);
+        x.undo();
+        x.undo();
+        due.is("14: the first sender", Calls.state(x), before);
+        x.remove(1, 0);
+        due.is("3: another machine of the number", x.machine(4, 3, 20), 0);
+        x.undo();
+        x.undo();
+        due.is("14: the first machine", Calls.state(x), before);
+        x.remove(2, 1);
+        due.is("4: another lamp of the number", x.lamp(5, 3, 2), 1);
+        x.undo();
+        x.undo();
+        due.is("14: the first lamp", Calls.state(x), before);
+        x.remove(0, 0);
+        x.sender(3, 4);
+        x.remove(1, 0);
+        x.machine(4, 3, 20);
+        x.remove(2, 1);
+        x.lamp(5, 3, 2);
+        x.restore();
+        due.is("16: all the first ones", Calls.state(x), before);
     }
 
     private static void textAndSnapshotStay() {

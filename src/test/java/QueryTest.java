@@ -106,6 +106,7 @@ public final class QueryTest {
         x.say(0, 30);
         x.pass(68);
         due.is("20: level", x.lampOf(0, 3), 1);
+        due.is("24: a level of 1 is above 0", x.count(6), 1);
         due.is("20: selected", x.lampOf(0, 4), 1);
     }
 
