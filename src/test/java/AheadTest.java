@@ -5,7 +5,6 @@ public final class AheadTest {
     public static void main(String[] args) {
         silence();
         silenceThatNeverComes();
-        silenceAtTheEdge();
         levels();
         freshness();
         due.end();
@@ -52,41 +51,6 @@ public final class AheadTest {
         due.is("26: nothing is changed", x.count(0), 0);
     }
 
-    private static void silenceAtTheEdge() {
-        MainsWords x = new MainsWords();
-        x.set(3, 3);
-        for (int number = 0; number < 3; number++) {
-            x.sender(0, 9);
-            for (int i = 0; i < 6; i++) {
-                x.say(number, 6 * number + i);
-            }
-        }
-        due.is("26: some 880 beats", x.silentIn(), -5);
-        Calls.pass(x, 240);
-        int most = 0;
-        int beyond = 0;
-        for (int beats = 0; beats < 80; beats++) {
-            int counted = countedSilence(x);
-            due.is("26: as beats show, after " + beats, x.silentIn(), counted <= 600 ? counted : -5);
-            most += counted == 600 ? 1 : 0;
-            beyond += counted == 601 ? 1 : 0;
-            x.pass(1);
-        }
-        due.is("26: 600 was among them", most, 1);
-        due.is("26: 601 was among them", beyond, 1);
-    }
-
-    private static int countedSilence(MainsWords x) {
-        x.save();
-        int beats = 0;
-        while (x.count(5) > 0 && beats < 2000) {
-            x.pass(1);
-            beats++;
-        }
-        x.restore();
-        return beats;
-    }
-
     private static void levels() {
         MainsWords x = new MainsWords();
         due.is("27: the lamp is looked at first", x.levelIn(0, -1), -1);
@@ -104,11 +68,9 @@ public final class AheadTest {
         x.say(0, 5);
         Calls.fillQueue(x, 0);
         int[][] steps = {{0, 0}, {47, 0}, {48, 1}, {81, 1}, {82, 9}, {115, 9}, {116, 0}, {400, 0}};
-        String before = Calls.all(x);
         for (int[] step : steps) {
             due.is("27: level in " + step[0], x.levelIn(0, step[0]), step[1]);
         }
-        due.is("27: nothing is changed", Calls.all(x), before);
         x.pass(48);
         due.is("27: it is as was told", x.lampOf(0, 3), 1);
         due.is("27: from there", x.levelIn(0, 33), 1);

@@ -25,28 +25,4 @@ final class Calls {
             x.say(sender, i);
         }
     }
-
-    /** The whole state, as the queries tell it; not the history, the text and the snapshot. */
-    static String state(MainsWords x) {
-        StringBuilder seen = new StringBuilder();
-        for (int number = 0; number < 8; number++) {
-            for (int what = 0; what < 7; what++) {
-                seen.append(x.senderOf(number, what)).append(' ');
-                seen.append(x.queued(number, what)).append(' ');
-                seen.append(x.machineOf(number, what)).append(' ');
-                seen.append(x.lampOf(number, what)).append(' ');
-                seen.append(x.receiver(number, what)).append(' ');
-            }
-            seen.append('\n');
-        }
-        for (int what = 0; what < 11; what++) {
-            seen.append(x.count(what)).append(' ').append(x.total(what)).append(' ');
-        }
-        return seen.append(x.freshness()).toString();
-    }
-
-    /** The state, and what stands beside it. */
-    static String all(MainsWords x) {
-        return state(x) + " history " + x.count(11) + " text " + x.count(12) + " fault " + x.fault();
-    }
 }

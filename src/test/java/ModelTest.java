@@ -4,6 +4,9 @@ import java.util.Random;
 public final class ModelTest {
     private static final int RUNS = 1000;
     private static final int CALLS = 512;
+    /** What is counted at the end of a run, and the most calls that are made at once in it. */
+    private static final int LAST_CALLS = 4;
+    private static final int MOST_AT_ONCE = 80;
     private static final String[] TEXTS = {
         "0:A0A+", "1:A1A^,t34,2:B2", "t99,t99", "3:C3C^C^,4:D!", "0:A0,5", "t0", "0:A0,t40,0:A1,t1,0:A^",
         "4:B0B1B2B3B+B-B!", "2:D3D+,t60,2:D!,1:C0", "0:A+,1:B+,2:C+,3:D+,4:A-,t70"
@@ -37,7 +40,8 @@ public final class ModelTest {
 
     private void go(int run) {
         int calls = 0;
-        while (calls < CALLS) {
+        while (calls < CALLS - LAST_CALLS) {
+            boolean isNearTheEnd = calls + MOST_AT_ONCE > CALLS - LAST_CALLS;
             int kind = random.nextInt(100);
             String call = "run " + run + ", call " + calls;
             if (kind < 20) {
@@ -47,15 +51,16 @@ public final class ModelTest {
                 pass(call);
             } else if (kind < 75) {
                 say(call);
-            } else if (kind == 75) {
-                calls += write(call);
-            } else if (kind == 76) {
-                calls += askAll(call);
+            } else if (kind == 75 && !isNearTheEnd) {
+                calls += write(call) - 1;
+            } else if (kind == 76 && !isNearTheEnd) {
+                calls += askAll(call) - 1;
             } else {
                 ask(call, 28 + random.nextInt(12));
             }
             calls++;
         }
+        due.is("run " + run + ": calls", calls, CALLS - LAST_CALLS);
         told += x.total(2);
         disturbed += x.total(1);
         bad += x.total(4);
@@ -151,6 +156,7 @@ public final class ModelTest {
         due.is(call + ": say(" + number + ", " + word + ")", x.say(number, word), model.say(number, word));
     }
 
+    /** Writes a text and carries it out; returns how many calls it made. */
     private int write(String call) {
         int calls = 0;
         if (random.nextInt(3) > 0) {
@@ -165,10 +171,11 @@ public final class ModelTest {
         }
         if (random.nextInt(3) == 0) {
             due.is(call + ": append(44)", x.append(44), model.append(44));
+            calls++;
         }
         due.is(call + ": fault() of " + text, x.fault(), model.fault());
         due.is(call + ": perform() of " + text, x.perform(), model.perform());
-        return calls + 3;
+        return calls + 2;
     }
 
     private void ask(String call, int kind) {

@@ -12,7 +12,6 @@ public final class QueryTest {
         losses();
         counts();
         totals();
-        queriesChangeNothing();
         due.end();
     }
 
@@ -228,25 +227,5 @@ public final class QueryTest {
         x.pass(9);
         due.is("25: a bad word", x.total(4), 1);
         due.is("25: a removed sender's word is not finished", x.total(0), 2);
-    }
-
-    private static void queriesChangeNothing() {
-        MainsWords x = new MainsWords();
-        x.sender(0, 9);
-        x.sender(0, 9);
-        x.machine(0, 7, 6);
-        x.lamp(0, 0, 0);
-        Calls.type(x, "0:A0A+,1:A1,t9");
-        x.perform();
-        for (int beat = 0; beat < 60; beat++) {
-            String before = Calls.all(x);
-            x.silentIn();
-            x.levelIn(0, 77);
-            x.freshness();
-            x.frame(3, 3);
-            x.loss(0, 5);
-            due.is("17 to 28: nothing is changed", Calls.all(x), before);
-            x.pass(1);
-        }
     }
 }

@@ -156,11 +156,11 @@ public final class TextTest {
     private static void performIsOneAction() {
         MainsWords x = new MainsWords();
         x.sender(0, 9);
-        String before = Calls.state(x);
         due.is("13: four are carried out", performed(x, "0:A0A1,t5,t6"), 4);
         due.is("13: one action", x.count(11), 2);
         x.undo();
-        due.is("13: undone at once", Calls.state(x), before);
+        due.is("13: its beats are undone", x.count(0), 0);
+        due.is("13: so are its words", x.count(5), 0);
         due.is("13: the text stays", x.count(12), 12);
         due.is("13: nothing is carried out", performed(x, "2:A0"), 0);
         due.is("13: it is an action all the same", x.count(11), 2);

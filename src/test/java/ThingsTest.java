@@ -12,8 +12,6 @@ public final class ThingsTest {
         running();
         settings();
         passing();
-        actionsAreKept();
-        errorsChangeNothing();
         due.end();
     }
 
@@ -247,75 +245,5 @@ public final class ThingsTest {
         due.is("9: the words of all receivers are counted", x.pass(14), 4);
         due.is("9: copies are not counted", x.pass(20), 0);
         due.is("9: the next word", x.pass(34), 2);
-    }
-
-    private static void actionsAreKept() {
-        MainsWords x = new MainsWords();
-        String[] before = new String[9];
-        before[0] = Calls.state(x);
-        x.sender(0, 9);
-        due.is("2: it is an action", undone(x), before[0]);
-        due.is("3: machine(0, 9, 5)", x.machine(0, 9, 5), 0);
-        due.is("3: it is an action", undone(x), before[0]);
-        x.lamp(0, 0, 0);
-        due.is("4: it is an action", undone(x), before[0]);
-        x.set(1, 5);
-        due.is("8: it is an action even if nothing changes", x.count(11), 1);
-        due.is("8: it is undone", undone(x), before[0]);
-        x.set(1, 7);
-        due.is("8: it is an action", undone(x), before[0]);
-        x.pass(7);
-        due.is("9: it is an action", undone(x), before[0]);
-        x.sender(3, 9);
-        x.machine(4, 9, 5);
-        String withThings = Calls.state(x);
-        x.say(0, 3);
-        due.is("6: it is an action", undone(x), withThings);
-        x.run(0, false);
-        due.is("7: it is an action", undone(x), withThings);
-        x.run(0, true);
-        due.is("7: it is an action even if nothing changes", x.count(11), 3);
-        due.is("7: it is undone", undone(x), withThings);
-        x.remove(0, 0);
-        due.is("5: it is an action", undone(x), withThings);
-    }
-
-    private static String undone(MainsWords x) {
-        x.undo();
-        return Calls.state(x);
-    }
-
-    private static void errorsChangeNothing() {
-        MainsWords x = new MainsWords();
-        for (int i = 0; i < 8; i++) {
-            x.sender(i % 6, 9);
-            x.machine(i % 6, 4, 3 + i);
-            x.lamp(i % 6, 0, 0);
-        }
-        Calls.fillQueue(x, 0);
-        String before = Calls.all(x);
-        x.sender(0, 1);
-        x.sender(6, 1);
-        x.sender(0, 0);
-        x.machine(0, 1, 2);
-        x.machine(-1, 1, 2);
-        x.machine(0, 10, 2);
-        x.machine(0, 1, 21);
-        x.lamp(0, 0, 0);
-        x.lamp(6, 0, 0);
-        x.lamp(0, 4, 0);
-        x.remove(3, 0);
-        x.remove(2, 8);
-        x.say(5, 0);
-        x.say(0, 32);
-        x.say(0, 0);
-        x.run(4, false);
-        x.set(4, 0);
-        x.set(0, 10);
-        x.pass(0);
-        x.pass(100);
-        x.restore();
-        x.perform();
-        due.is("2 to 16: errors change nothing", Calls.all(x), before);
     }
 }
