@@ -176,10 +176,10 @@ public final class EdgeHistoryTest {
     private static void numbersGivenAgain() {
         edges.sentence("Restores the latest state of the history, with things whose numbers were given again");
         edges.unchanged(SHORT, "remove(0, 1)", "sender(3, 4)", "undo()", "undo()");
-        edges.unchanged(SHORT, "remove(1, 0)", "machine(4, 3, 20)", "undo()", "undo()");
+        edges.unchanged(SHORT, "remove(1, 0)", "machine(3, 3, 9)", "undo()", "undo()");
         edges.unchanged(SHORT, "remove(2, 1)", "lamp(5, 3, 2)", "undo()", "undo()");
         Run saved = SHORT.and("pass(1)", "save()");
-        Run others = saved.and("remove(0, 1)", "sender(3, 4)", "remove(1, 0)", "machine(4, 3, 20)", "remove(2, 1)",
+        Run others = saved.and("remove(0, 1)", "sender(3, 4)", "remove(1, 0)", "machine(3, 3, 9)", "remove(2, 1)",
             "lamp(5, 3, 2)", "restore()");
         edges.same(saved.times(4, "pass(1)"), others.times(4, "pass(1)"));
     }
