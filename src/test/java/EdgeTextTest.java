@@ -9,6 +9,7 @@ public final class EdgeTextTest {
         characters();
         roomInTheText();
         lengthToClear();
+        nothingIsLeft();
         digitOfASender();
         colonBehindASender();
         letterOfAWord();
@@ -71,6 +72,16 @@ public final class EdgeTextTest {
         edges.is(NEW.type(LONGEST).and("clearText()"), "clearText()", 0);
         edges.is(NEW.type("t5").and("clearText()"), "fault()", 0);
         edges.is(NEW.type("x").and("clearText()").type("t5"), "fault()", Edges.NONE);
+    }
+
+    private static void nothingIsLeft() {
+        edges.sentence("Empties the text.");
+        Run sender = Run.of("sender(0, 9)");
+        edges.is(sender.type("t99").and("clearText()").type("t9").and("perform()"), "count(0)", 9);
+        edges.is(sender.type("t9,t9").and("clearText()").type("t9"), "perform()", 1);
+        edges.is(sender.type("0:A0A1").and("clearText()").type("0:A0"), "perform()", 1);
+        edges.is(sender.type("0:A0").and("clearText()").type("0:A"), "fault()", 3);
+        edges.is(NEW.type(LONGEST).and("clearText()").type(LONGEST.substring(0, 79)), "fault()", 79);
     }
 
     private static void digitOfASender() {
